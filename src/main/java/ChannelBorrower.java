@@ -690,7 +690,7 @@ public final class ChannelBorrower {
         }
 
         int usedIn(int cell) {
-            return layout.hasCell(cell) ? used[cell] : 0;
+            return cell >= 0 && cell < MAX_CELLS ? used[cell] : 0;
         }
 
         int availableIn(int cell) {
