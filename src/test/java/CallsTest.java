@@ -39,10 +39,7 @@ public final class CallsTest {
     }
 
     private static void startCallFull() {
-        Run run = new Run("10: 60 calls").due("configure(5,5,2,4) = 12");
-        for (int call = 0; call < 60; call++) {
-            run.due("startCall(" + call / 4 + ") = " + call);
-        }
+        Run run = Run.withSixtyCalls("10: 60 calls");
         run.due("callCount() = 60; startCall(24) = -3; startCall(25) = -1; startCall(-1) = -1; attempts() = 60;"
                 + "endCall(59) = 10; undo() = 5; endCall(30) = 8; startCall(24) = 30; startCall(24) = -3;"
                 + "undo() = 5; callCount() = 59; cellOf(30) = -4; cellOf(59) = 14");

@@ -31,11 +31,11 @@ public final class FaceTest {
     }
 
     private static void constants() {
-        Run.check("INVALID_ARGUMENT", ChannelBorrower.INVALID_ARGUMENT, -1, "");
-        Run.check("ILLEGAL_STATE", ChannelBorrower.ILLEGAL_STATE, -2, "");
-        Run.check("CAPACITY_EXCEEDED", ChannelBorrower.CAPACITY_EXCEEDED, -3, "");
-        Run.check("NO_SUCH_CALL", ChannelBorrower.NO_SUCH_CALL, -4, "");
-        Run.check("NONE", ChannelBorrower.NONE, -9, "");
+        Run.check("INVALID_ARGUMENT", ChannelBorrower.INVALID_ARGUMENT, -1);
+        Run.check("ILLEGAL_STATE", ChannelBorrower.ILLEGAL_STATE, -2);
+        Run.check("CAPACITY_EXCEEDED", ChannelBorrower.CAPACITY_EXCEEDED, -3);
+        Run.check("NO_SUCH_CALL", ChannelBorrower.NO_SUCH_CALL, -4);
+        Run.check("NONE", ChannelBorrower.NONE, -9);
     }
 
     private static void publicMethods() {
@@ -46,23 +46,23 @@ public final class FaceTest {
                 found.add(method.getName() + " " + (plain ? method.getParameterCount() : -1));
             }
         }
-        isTrue("the public methods are those of the document: " + found, found.equals(Set.of(METHODS)));
+        Run.isTrue("the public methods are those of the document: " + found, found.equals(Set.of(METHODS)));
     }
 
     private static void nothingElseIsVisible(Class<?> face) {
-        isTrue("the class is public and final", Modifier.isPublic(face.getModifiers())
+        Run.isTrue("the class is public and final", Modifier.isPublic(face.getModifiers())
                 && Modifier.isFinal(face.getModifiers()));
         for (Field field : face.getDeclaredFields()) {
             boolean constant = Set.of("INVALID_ARGUMENT", "ILLEGAL_STATE", "CAPACITY_EXCEEDED", "NO_SUCH_CALL", "NONE")
                     .contains(field.getName());
-            isTrue("private: " + field, constant || Modifier.isPrivate(field.getModifiers()));
+            Run.isTrue("private: " + field, constant || Modifier.isPrivate(field.getModifiers()));
         }
         for (Method method : face.getDeclaredMethods()) {
             int modifiers = method.getModifiers();
-            isTrue("public or private: " + method, Modifier.isPublic(modifiers) || Modifier.isPrivate(modifiers));
+            Run.isTrue("public or private: " + method, Modifier.isPublic(modifiers) || Modifier.isPrivate(modifiers));
         }
         for (Constructor<?> constructor : face.getDeclaredConstructors()) {
-            isTrue("without parameters: " + constructor, constructor.getParameterCount() == 0);
+            Run.isTrue("without parameters: " + constructor, constructor.getParameterCount() == 0);
         }
     }
 
@@ -72,15 +72,15 @@ public final class FaceTest {
             names.add(method.split(" ")[0]);
         }
         for (Method method : ChannelBorrower.class.getDeclaredMethods()) {
-            isTrue("a name of the face: " + method,
+            Run.isTrue("a name of the face: " + method,
                     Modifier.isPublic(method.getModifiers()) || !names.contains(method.getName()));
         }
         for (Class<?> inside : ChannelBorrower.class.getDeclaredClasses()) {
-            isTrue("static, not public: " + inside, Modifier.isStatic(inside.getModifiers())
+            Run.isTrue("static, not public: " + inside, Modifier.isStatic(inside.getModifiers())
                     && !Modifier.isPublic(inside.getModifiers()));
-            isTrue("some twenty fields: " + inside, inside.getDeclaredFields().length <= 20);
+            Run.isTrue("some twenty fields: " + inside, inside.getDeclaredFields().length <= 20);
             for (Method method : inside.getDeclaredMethods()) {
-                isTrue("a name of the face: " + method, !names.contains(method.getName()));
+                Run.isTrue("a name of the face: " + method, !names.contains(method.getName()));
             }
         }
     }
@@ -89,16 +89,12 @@ public final class FaceTest {
         String words = "throw|throws|try|catch|finally|synchronized|assert|yield|volatile|transient|native|package"
                 + "|Object|Thread|Random|System\\.(?!arraycopy)\\w+|equals|hashCode|toString|instanceof|Stream";
         Matcher matcher = Pattern.compile("\\b(" + words + ")\\b|->|::|@").matcher(source);
-        isTrue("a forbidden word: " + (matcher.find() ? matcher.group() : ""), matcher.reset().results().count() == 0);
-        isTrue("imports java.util.Arrays alone", source.replace("import java.util.Arrays;", "").indexOf("import") < 0);
-        isTrue("signs 1 to 127 alone", source.chars().allMatch(sign -> sign >= 1 && sign <= 127));
+        Run.isTrue("a forbidden word: " + (matcher.find() ? matcher.group() : ""), matcher.reset().results().count() == 0);
+        Run.isTrue("imports java.util.Arrays alone", source.replace("import java.util.Arrays;", "").indexOf("import") < 0);
+        Run.isTrue("signs 1 to 127 alone", source.chars().allMatch(sign -> sign >= 1 && sign <= 127));
     }
 
     private static String withoutComments(String source) {
         return source.replaceAll("(?s)/\\*.*?\\*/", "").replaceAll("//[^\n]*", "");
-    }
-
-    private static void isTrue(String what, boolean answer) {
-        Run.check(what, answer ? 1 : 0, 1, "");
     }
 }

@@ -1,11 +1,13 @@
 import java.lang.reflect.InvocationTargetException;
 import java.lang.reflect.Method;
+import java.util.Arrays;
 import java.util.HashMap;
 import java.util.Map;
 
 /**
  * A run of calls on one new object, written as in the document's examples:
- * "startCall(5) = 0; isBorrowed(0) = 0".
+ * "startCall(5) = 0; isBorrowed(0) = 0". The model is asked the same, so that it is held to the
+ * answers that are due as well.
  */
 final class Run {
     private static final Map<String, Method> METHODS = methods();
@@ -14,16 +16,26 @@ final class Run {
 
     private final String name;
     private final ChannelBorrower object = new ChannelBorrower();
+    private final Model model = new Model();
 
     Run(String name) {
         this.name = name;
+    }
+
+    /** A run that has begun with 60 calls, four in each of the cells 0 to 14. */
+    static Run withSixtyCalls(String name) {
+        Run run = new Run(name).due("configure(5,5,2,4) = 12");
+        for (int call = 0; call < 60; call++) {
+            run.due("startCall(" + call / 4 + ") = " + call);
+        }
+        return run;
     }
 
     /** Makes the calls in order, and prints each one whose answer is not the one that is due. */
     Run due(String calls) {
         for (String call : calls.split(";")) {
             String[] sides = call.split("=");
-            check(sides[0].trim(), call(sides[0].trim()), Long.parseLong(sides[1].trim()));
+            isDue(sides[0].trim(), Integer.parseInt(sides[1].trim()));
         }
         return this;
     }
@@ -36,11 +48,22 @@ final class Run {
         return this;
     }
 
+    /** Makes a call on this object and on another one; both have to answer the same. */
+    void same(Run other, String call) {
+        check(name + ": " + call, ask(call), other.ask(call));
+    }
+
+    /** Makes a call that no error code may answer. */
+    Run taken(String call) {
+        int got = ask(call);
+        isTrue(name + ": " + call + " is taken, though it answered " + got, got >= 0 || got == ChannelBorrower.NONE);
+        return this;
+    }
+
     /** Appends a text to one that is empty. */
     Run type(String text) {
         for (int i = 0; i < text.length(); i++) {
-            int character = text.charAt(i);
-            check("appendCharacter(" + character + ")", object.appendCharacter(character), i + 1);
+            isDue("appendCharacter(" + (int) text.charAt(i) + ")", i + 1);
         }
         return this;
     }
@@ -48,28 +71,43 @@ final class Run {
     /** Runs a text as a script, and looks whether it is kept or not. */
     Run script(String text, int answer) {
         type(text);
-        check("runScript() of \"" + text + "\"", object.runScript(), answer);
-        check("clearText() behind \"" + text + "\"", object.clearText(), answer < 0 ? text.length() : 0);
+        isDue("runScript()", answer, " behind \"" + text + "\"");
+        isDue("clearText()", answer < 0 ? text.length() : 0, " behind \"" + text + "\"");
         return this;
     }
 
-    private long call(String call) {
-        int open = call.indexOf('(');
-        String inside = call.substring(open + 1, call.length() - 1).trim();
-        String[] parts = inside.isEmpty() ? new String[0] : inside.split(",");
-        Object[] arguments = new Object[parts.length];
-        for (int i = 0; i < parts.length; i++) {
-            arguments[i] = Integer.valueOf(parts[i].trim());
-        }
+    private void isDue(String call, int want) {
+        isDue(call, want, "");
+    }
+
+    private void isDue(String call, int want, String where) {
+        check(name + ": " + call + where, ask(call), want);
+    }
+
+    private int ask(String call) {
+        int[] numbers = argumentsOf(call);
+        Object[] arguments = Arrays.stream(numbers).boxed().toArray();
         try {
-            return (Integer) METHODS.get(call.substring(0, open)).invoke(object, arguments);
+            int got = (Integer) METHODS.get(methodOf(call)).invoke(object, arguments);
+            check(name + ": " + call, got, model.call(methodOf(call), numbers), " by the model");
+            return got;
         } catch (IllegalAccessException | InvocationTargetException e) {
             throw new IllegalStateException(name + ": " + call, e);
         }
     }
 
-    private void check(String call, long got, long want) {
-        check(name + ": " + call, got, want, "");
+    private static String methodOf(String call) {
+        return call.substring(0, call.indexOf('('));
+    }
+
+    private static int[] argumentsOf(String call) {
+        String inside = call.substring(call.indexOf('(') + 1, call.length() - 1).trim();
+        String[] parts = inside.isEmpty() ? new String[0] : inside.split(",");
+        return Arrays.stream(parts).mapToInt(part -> Integer.parseInt(part.trim())).toArray();
+    }
+
+    static void check(String what, long got, long want) {
+        check(what, got, want, "");
     }
 
     static void check(String what, long got, long want, String where) {
@@ -77,6 +115,14 @@ final class Run {
         if (got != want) {
             wrong++;
             System.out.println(what + " answered " + got + ", due is " + want + where);
+        }
+    }
+
+    static void isTrue(String what, boolean answer) {
+        asked++;
+        if (!answer) {
+            wrong++;
+            System.out.println("not so: " + what);
         }
     }
 

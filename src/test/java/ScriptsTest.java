@@ -42,11 +42,7 @@ public final class ScriptsTest {
         new Run("36: all skipped").script("e7;h0,1;s12;s99;", 0).due("callCount() = 0; attempts() = 0; undo() = 0;"
                 + "undo() = -2");
         new Run("36: some skipped").script("s5;h0,5;h0,0;h0,12;e1;s12;e0;e0;", 2).due("callCount() = 0; attempts() = 1");
-        Run run = new Run("36: skipped in a full network").due("configure(5,5,2,4) = 12");
-        for (int call = 0; call < 60; call++) {
-            run.due("startCall(" + call / 4 + ") = " + call);
-        }
-        run.script("s24;e59;s24;s24;", 2).due("callCount() = 60; cellOf(59) = 24");
+        Run.withSixtyCalls("36: skipped in a full network").script("s24;e59;s24;s24;", 2).due("callCount() = 60; cellOf(59) = 24");
     }
 
     private static void errorPositions() {
