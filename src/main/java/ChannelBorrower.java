@@ -558,7 +558,7 @@ public final class ChannelBorrower {
                 blockedInFixed++;
             }
             int call = lowestFreeNumber();
-            if (call == NONE || channel == NONE && !accepted) {
+            if (!isBetween(call, 0, MAX_CALLS - 1) || channel == NONE && !accepted) {
                 return NONE;
             }
             callFixed[call] = asNumber(accepted);
@@ -627,10 +627,12 @@ public final class ChannelBorrower {
         }
 
         private void release(int call) {
-            int channel = channelAt(call);
-            int cell = cellAt(call);
-            if (channel != NONE && layout.hasCell(cell)) {
-                used[cell] &= ~(1 << channel);
+            if (!isPresent(call) || callChannel[call] == NONE) {
+                return;
+            }
+            int cell = callCell[call];
+            if (layout.hasCell(cell)) {
+                used[cell] &= ~(1 << callChannel[call]);
                 callChannel[call] = NONE;
             }
         }
