@@ -12,9 +12,13 @@ public final class ChoiceBoundariesTest {
     private static final String CELL_8_FULL = "startCall(8) = 0; startCall(8) = 1; burden(8,1) = 2; burden(8,4) = 2;"
             + "burden(8,0) = 1; burden(8,3) = 1;";
 
+    // A call in cell 5 is to be handed over to cell 6, which has no nominal channel left.
+    private static final String CELL_6_FULL = "startCall(6) = 0; startCall(6) = 1; startCall(5) = 2; channelOf(2) = 0;";
+
     public static void main(String[] args) {
         nominalChannels();
         offers();
+        offersInAHandover();
         reserve();
         noOffers();
         richestDonor();
@@ -65,6 +69,23 @@ public final class ChoiceBoundariesTest {
                 + "startCall(0) = 1; startCall(0) = 2; startCall(0) = 3; channelOf(3) = 4; startCall(8) = 4;"
                 + "startCall(8) = 5; setStrategy(1) = 0; isAvailable(4,4) = 0; availableCount(4) = 1;"
                 + "isAvailable(8,4) = 1; nextDonor(8) = 4; nextChannel(8) = 4");
+    }
+
+    private static void offersInAHandover() {
+        // Cell 7 is near the new cell alone, cell 4 near the old one alone; both use the channels 1 and 4.
+        new Run("In a handover: a channel that is available in the old cell alone is no offer").due(CELL_6_FULL
+                + "startCall(7) = 3; startCall(7) = 4; isAvailable(5,4) = 1; isAvailable(6,4) = 0; nextDonor(6) = 3;"
+                + "handOver(2,6) = 3; isBorrowed(2) = 1; borrowings() = 1");
+        new Run("In a handover: a channel that is available in the new cell alone is an offer").due(CELL_6_FULL
+                + "startCall(4) = 3; startCall(4) = 4; isAvailable(5,4) = 0; isAvailable(6,4) = 1; nextDonor(6) = 2;"
+                + "handOver(2,6) = 4; isBorrowed(2) = 1; borrowings() = 1");
+        new Run("In a handover: the donor is a neighbour of the new cell").due(CELL_6_FULL
+                + "startCall(7) = 3; startCall(7) = 4; distance(5,3) = 2; distance(6,3) = 1; handOver(2,6) = 3;"
+                + "channelOf(2) = 3; cellOf(2) = 6");
+        // Both channels of the group of cell 5 are in use there, so its own ones are no offer to the new cell.
+        new Run("In a handover: a channel in use in the old cell is no offer").due(CELL_6_FULL
+                + "startCall(5) = 3; startCall(7) = 4; startCall(7) = 5; nextChannel(6) = -9; handOver(2,6) = -9;"
+                + "dropped() = 1; endCall(3) = 3; nextChannel(6) = 3");
     }
 
     private static void reserve() {
